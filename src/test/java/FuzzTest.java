@@ -2,7 +2,7 @@ import java.util.function.LongSupplier;
 
 /** Long runs of calls, the same ones each time, whose answers are compared with those of the Model. */
 public final class FuzzTest {
-    private static final int RUNS = 1200, CALLS = 512;
+    private static final int RUNS = 3000, CALLS = 512;
     private static long seed;
     private static int wrong = 0, acts = 0, clears = 0, volumes = 0, strikes = 0, changes = 0;
     private static int[] faults = new int[7];
@@ -10,7 +10,16 @@ public final class FuzzTest {
 
     private Cellmarket x;
     private Model m;
-    private int style, bells, strikesIn100;
+    private int style, bells, strikesIn100, calls;
+
+    /** All calls of a run are made. */
+    private static final class Done extends RuntimeException {
+        private static final long serialVersionUID = 1;
+
+        Done() {
+            super(null, null, false, false);
+        }
+    }
 
     private static int any(int bound) {
         seed = seed * 6364136223846793005L + 1442695040888963407L;
@@ -51,6 +60,10 @@ public final class FuzzTest {
     }
 
     private long same(String call, LongSupplier got, LongSupplier want) {
+        if (calls == CALLS || wrong > 0) {
+            throw new Done();
+        }
+        calls++;
         long w = want.getAsLong();
         long g = answer(got);
         told.append(call).append(" = ").append(name(w)).append('\n');
@@ -272,49 +285,55 @@ public final class FuzzTest {
         }
     }
 
-    /** All that can be asked, so that nothing goes wrong unseen. */
+    private void maybe(String call, LongSupplier got, LongSupplier want) {
+        if (chance(40)) {
+            same(call, got, want);
+        }
+    }
+
+    /** All that can be asked, each question now and then, so that nothing goes wrong unseen. */
     private void askAll() {
-        same("events()", () -> x.events(), () -> m.events());
+        maybe("events()", () -> x.events(), () -> m.events());
         for (int i = 0; i < 24; i++) {
             int c = i / 6;
             int r = i % 6;
             int o = (int) m.ownerOf(c, r);
-            same("ownerOf", () -> x.ownerOf(c, r), () -> m.ownerOf(c, r));
-            same("value(" + o + ", " + c + ", " + r + ")", () -> x.value(o, c, r), () -> m.value(o, c, r));
-            same("fault(" + o + ", " + c + ", " + r + ")", () -> x.fault(o, c, r), () -> m.fault(o, c, r));
-            same("edits(" + c + ", " + r + ")", () -> x.edits(c, r), () -> m.edits(c, r));
+            maybe("ownerOf", () -> x.ownerOf(c, r), () -> m.ownerOf(c, r));
+            maybe("value(" + o + ", " + c + ", " + r + ")", () -> x.value(o, c, r), () -> m.value(o, c, r));
+            maybe("fault(" + o + ", " + c + ", " + r + ")", () -> x.fault(o, c, r), () -> m.fault(o, c, r));
+            maybe("edits(" + c + ", " + r + ")", () -> x.edits(c, r), () -> m.edits(c, r));
             for (int p = 0; p < m.edits(c, r) * 7; p++) {
                 int place = p / 7;
                 int what = p % 7;
-                same("edit(" + c + ", " + r + ", " + place + ", " + what + ")",
+                maybe("edit(" + c + ", " + r + ", " + place + ", " + what + ")",
                     () -> x.edit(c, r, place, what), () -> m.edit(c, r, place, what));
             }
             for (int w = 0; w < 6; w++) {
                 int who = w;
-                same("reads(" + who + ", " + c + ", " + r + ")", () -> bit(x.reads(who, c, r)), () -> m.reads(who, c, r));
+                maybe("reads(" + who + ", " + c + ", " + r + ")", () -> bit(x.reads(who, c, r)), () -> m.reads(who, c, r));
             }
         }
         for (int i = 0; i < 24; i++) {
             int o = i / 4;
             int c = i % 4;
-            same("due(" + o + ", " + c + ")", () -> x.due(o, c), () -> m.due(o, c));
-            same("isFrozen(" + c + ")", () -> bit(x.isFrozen(c)), () -> m.isFrozen(c));
+            maybe("due(" + o + ", " + c + ")", () -> x.due(o, c), () -> m.due(o, c));
+            maybe("isFrozen(" + c + ")", () -> bit(x.isFrozen(c)), () -> m.isFrozen(c));
         }
         for (int i = 0; i < 6; i++) {
             int o = i;
-            same("cash(" + o + ")", () -> x.cash(o), () -> m.cash(o));
-            same("exposure(" + o + ")", () -> x.exposure(o), () -> m.exposure(o));
+            maybe("cash(" + o + ")", () -> x.cash(o), () -> m.cash(o));
+            maybe("exposure(" + o + ")", () -> x.exposure(o), () -> m.exposure(o));
         }
         for (int i = -1; i <= m.now().bids.size(); i++) {
             int b = i;
-            same("got(" + b + ")", () -> x.got(b), () -> m.got(b));
+            maybe("got(" + b + ")", () -> x.got(b), () -> m.got(b));
         }
         for (int i = -1; i <= m.now().rounds.size(); i++) {
             int r = i;
-            same("priceAnew(" + r + ")", () -> x.priceAnew(r), () -> m.priceAnew(r));
+            maybe("priceAnew(" + r + ")", () -> x.priceAnew(r), () -> m.priceAnew(r));
             for (int w = 0; w < 6; w++) {
                 int what = w;
-                same("round(" + r + ", " + what + ")", () -> x.round(r, what), () -> m.round(r, what));
+                maybe("round(" + r + ", " + what + ")", () -> x.round(r, what), () -> m.round(r, what));
             }
         }
     }
@@ -346,13 +365,17 @@ public final class FuzzTest {
                 }
             }
         }
-        for (int i = 0; i < CALLS && wrong == 0; i++) {
-            anyCall();
-            if (i % 64 == 63) {
+        int most = 60 + any(400);
+        try {
+            for (int i = 0; i < most; i++) {
+                anyCall();
+            }
+            for (int i = 0; i < CALLS; i++) {
                 askAll();
             }
+        } catch (Done e) {
+            acts += m.events.size();
         }
-        acts += m.events.size();
     }
 
     public static void main(String[] args) {

@@ -1,140 +1,11 @@
 import java.util.Arrays;
 
 /** The promises of the document one by one: ordinary calls, the edges that are named, and wrong calls. */
-public final class PromisesTest {
-    private static final Class<IndexOutOfBoundsException> OUT = IndexOutOfBoundsException.class;
-    private static final Class<IllegalArgumentException> BAD = IllegalArgumentException.class;
-    private static final Class<IllegalStateException> NOT = IllegalStateException.class;
-    private static final int N = Cellmarket.NUMBER, C = Cellmarket.CELL;
-    private static int checks = 0, wrong = 0;
-    private static int promise = 0;
-
-    private static void due(String what, long got, long want) {
-        checks++;
-        if (got != want) {
-            wrong++;
-            System.out.println("promise " + promise + ": " + what + " is " + got + ", due is " + want);
-        }
-    }
-
-    private static void due(String what, boolean got, boolean want) {
-        due(what, got ? 1 : 0, want ? 1 : 0);
-    }
-
-    /** The call throws just that exception, and all that can be asked stays as it was. */
-    private static void refused(Cellmarket x, String what, Class<? extends RuntimeException> kind, Runnable call) {
-        checks++;
-        String before = picture(x);
-        String thrown = "nothing";
-        try {
-            call.run();
-        } catch (RuntimeException e) {
-            thrown = FuzzTest.isThrownByTheClass(e) ? e.getClass().getName() : "not by itself " + e;
-        }
-        if (!thrown.equals(kind.getName())) {
-            wrong++;
-            System.out.println("promise " + promise + ": " + what + " throws " + thrown + ", due is " + kind.getName());
-        }
-        if (!before.equals(picture(x))) {
-            wrong++;
-            System.out.println("promise " + promise + ": " + what + " throws, and changes something");
-        }
-    }
-
-    private static String picture(Cellmarket x) {
-        StringBuilder all = new StringBuilder();
-        all.append(x.events());
-        for (int i = 0; i < 24; i++) {
-            int c = i / 6;
-            int r = i % 6;
-            int o = x.ownerOf(c, r);
-            all.append('|').append(o).append(' ').append(x.value(o, c, r)).append(' ').append(x.fault(o, c, r));
-            for (int who = 0; who < 6; who++) {
-                all.append(x.reads(who, c, r) ? '+' : '-');
-            }
-            for (int p = 0; p < x.edits(c, r); p++) {
-                for (int what = 0; what < 7; what++) {
-                    all.append(' ').append(x.edit(c, r, p, what));
-                }
-            }
-            all.append(' ').append(x.due(i % 6, c));
-        }
-        for (int c = 0; c < 4; c++) {
-            all.append(x.isFrozen(c) ? '#' : '.');
-        }
-        for (int o = 0; o < 6; o++) {
-            all.append(' ').append(x.cash(o)).append(' ').append(x.exposure(o));
-        }
-        all.append("|rounds");
-        try {
-            for (int round = 0; round < 40; round++) {
-                for (int what = 0; what < 6; what++) {
-                    all.append(' ').append(x.round(round, what));
-                }
-            }
-        } catch (IndexOutOfBoundsException e) {
-            all.append("|bids");
-        }
-        try {
-            for (int bid = 0; bid < 100; bid++) {
-                all.append(' ').append(x.got(bid));
-            }
-        } catch (IndexOutOfBoundsException e) {
-            all.append('.');
-        }
-        return all.toString();
-    }
-
-    private static void write(Cellmarket x, int... words) {
-        for (int i = 0; i < words.length; i += 3) {
-            x.word(words[i], words[i + 1], words[i + 2]);
-        }
-    }
-
-    /** Enters words, three numbers each, by whoever owns the cell; returns the number of the edit. */
-    private static int formula(Cellmarket x, int column, int row, int... words) {
-        write(x, words);
-        return x.enter(x.ownerOf(column, row), column, row);
-    }
-
-    private static int number(Cellmarket x, int column, int row, int number) {
-        return formula(x, column, row, N, number, 0);
-    }
-
-    private static int round(Cellmarket x, int column) {
-        x.bell(column);
-        return x.bell(column);
-    }
-
-    private static int seen(Cellmarket x, int column, int row) {
-        return x.value(x.ownerOf(column, row), column, row);
-    }
-
-    private static int faultOf(Cellmarket x, int column, int row) {
-        return x.fault(x.ownerOf(column, row), column, row);
-    }
-
-    /** Something that passes time. */
-    private static void wait(Cellmarket x, int events) {
-        for (int i = 0; i < events; i++) {
-            x.limit(5, 100000);
-        }
-    }
-
-    private static void letAll(Cellmarket x) {
-        for (int owner = 0; owner < 4; owner++) {
-            for (int other = 0; other < 6; other++) {
-                if (owner != other) {
-                    x.let(owner, other, owner, 0, 5, true);
-                }
-            }
-        }
-    }
-
+public final class PromisesTest extends Check {
     // ---- cells
 
     private static void newObject() {
-        Cellmarket x = new Cellmarket();
+        Traced x = new Traced();
         for (int c = 0; c < 4; c++) {
             due("isFrozen", x.isFrozen(c), false);
             for (int r = 0; r < 6; r++) {
@@ -157,13 +28,13 @@ public final class PromisesTest {
             due("limit before", x.limit(o, 5), 100000);
         }
         due("wipe", x.wipe(), 0);
-        Cellmarket y = new Cellmarket();
+        Traced y = new Traced();
         due("another object's events", y.events(), 0);
         due("another object's limit", y.limit(0, 1), 100000);
     }
 
     private static void give() {
-        Cellmarket x = new Cellmarket();
+        Traced x = new Traced();
         due("give", x.give(0, 0, 5, 4), 1);
         due("give", x.give(0, 0, 4, 4), 2);
         due("give on", x.give(4, 0, 4, 1), 7);
@@ -176,22 +47,22 @@ public final class PromisesTest {
         due("reads", x.reads(0, 0, 5), false);
         due("reads", x.reads(4, 0, 5), true);
         for (int off : new int[] {-1, 6, Integer.MIN_VALUE, Integer.MAX_VALUE}) {
-            refused(x, "give, owner " + off, OUT, () -> x.give(off, 0, 0, 1));
-            refused(x, "give, row " + off, OUT, () -> x.give(0, 0, off, 1));
-            refused(x, "give, other " + off, OUT, () -> x.give(0, 0, 0, off));
-            refused(x, "give, other's cell and other " + off, OUT, () -> x.give(1, 0, 0, off));
+            refused(x, "give, owner " + off, OUT, m -> m.give(off, 0, 0, 1));
+            refused(x, "give, row " + off, OUT, m -> m.give(0, 0, off, 1));
+            refused(x, "give, other " + off, OUT, m -> m.give(0, 0, 0, off));
+            refused(x, "give, other's cell and other " + off, OUT, m -> m.give(1, 0, 0, off));
         }
-        refused(x, "give, column -1", OUT, () -> x.give(0, -1, 0, 1));
-        refused(x, "give, column 4", OUT, () -> x.give(0, 4, 0, 1));
-        refused(x, "give, not the owner's", NOT, () -> x.give(0, 0, 5, 1));
-        refused(x, "give, not the owner's, to the owner", NOT, () -> x.give(0, 1, 0, 1));
+        refused(x, "give, column -1", OUT, m -> m.give(0, -1, 0, 1));
+        refused(x, "give, column 4", OUT, m -> m.give(0, 4, 0, 1));
+        refused(x, "give, not the owner's", NOT, m -> m.give(0, 0, 5, 1));
+        refused(x, "give, not the owner's, to the owner", NOT, m -> m.give(0, 1, 0, 1));
         due("give the last one", x.give(3, 3, 5, 5), 1);
         due("give the first one", x.give(0, 0, 0, 5), 2);
         due("give it back", x.give(5, 0, 0, 0), 4);
     }
 
     private static void giveTakesFees() {
-        Cellmarket x = new Cellmarket();
+        Traced x = new Traced();
         number(x, 0, 0, 10);
         number(x, 0, 1, 100);
         x.bid(1, 0, true, 10, 10);
@@ -207,7 +78,7 @@ public final class PromisesTest {
     }
 
     private static void let() {
-        Cellmarket x = new Cellmarket();
+        Traced x = new Traced();
         due("let", x.let(0, 1, 0, 2, 4, true), 3);
         for (int r = 0; r < 6; r++) {
             due("reads row " + r, x.reads(1, 0, r), r >= 2 && r <= 4);
@@ -236,80 +107,80 @@ public final class PromisesTest {
     }
 
     private static void letRefused() {
-        Cellmarket x = new Cellmarket();
+        Traced x = new Traced();
         for (int off : new int[] {-1, 6, Integer.MIN_VALUE, Integer.MAX_VALUE}) {
-            refused(x, "let, owner " + off, OUT, () -> x.let(off, 1, 0, 0, 0, true));
-            refused(x, "let, other " + off, OUT, () -> x.let(0, off, 0, 0, 0, true));
-            refused(x, "let, from " + off, OUT, () -> x.let(0, 1, 0, off, 5, true));
-            refused(x, "let, to " + off, OUT, () -> x.let(0, 1, 0, 0, off, true));
-            refused(x, "let, both the same, to " + off, OUT, () -> x.let(0, 0, 0, 0, off, true));
-            refused(x, "let, both " + off, OUT, () -> x.let(off, off, 0, 0, 0, true));
+            refused(x, "let, owner " + off, OUT, m -> m.let(off, 1, 0, 0, 0, true));
+            refused(x, "let, other " + off, OUT, m -> m.let(0, off, 0, 0, 0, true));
+            refused(x, "let, from " + off, OUT, m -> m.let(0, 1, 0, off, 5, true));
+            refused(x, "let, to " + off, OUT, m -> m.let(0, 1, 0, 0, off, true));
+            refused(x, "let, both the same, to " + off, OUT, m -> m.let(0, 0, 0, 0, off, true));
+            refused(x, "let, both " + off, OUT, m -> m.let(off, off, 0, 0, 0, true));
         }
-        refused(x, "let, column -1", OUT, () -> x.let(0, 1, -1, 0, 0, true));
-        refused(x, "let, column 4", OUT, () -> x.let(0, 1, 4, 0, 0, true));
-        refused(x, "let, column 4, to below from", OUT, () -> x.let(0, 1, 4, 3, 2, true));
-        refused(x, "let, both the same", BAD, () -> x.let(2, 2, 2, 0, 0, true));
-        refused(x, "let, to below from", BAD, () -> x.let(0, 1, 0, 1, 0, true));
-        refused(x, "let, both the same of no cells", BAD, () -> x.let(5, 5, 0, 0, 0, true));
+        refused(x, "let, column -1", OUT, m -> m.let(0, 1, -1, 0, 0, true));
+        refused(x, "let, column 4", OUT, m -> m.let(0, 1, 4, 0, 0, true));
+        refused(x, "let, column 4, to below from", OUT, m -> m.let(0, 1, 4, 3, 2, true));
+        refused(x, "let, both the same", BAD, m -> m.let(2, 2, 2, 0, 0, true));
+        refused(x, "let, to below from", BAD, m -> m.let(0, 1, 0, 1, 0, true));
+        refused(x, "let, both the same of no cells", BAD, m -> m.let(5, 5, 0, 0, 0, true));
         due("let row 5", x.let(0, 1, 0, 5, 5, true), 1);
         due("let row 0", x.let(0, 1, 0, 0, 0, true), 1);
     }
 
     private static void ownerOf() {
-        Cellmarket x = new Cellmarket();
+        Traced x = new Traced();
         due("ownerOf", x.ownerOf(3, 5), 3);
         x.give(3, 3, 5, 0);
         due("ownerOf", x.ownerOf(3, 5), 0);
-        refused(x, "ownerOf(-1, 0)", OUT, () -> x.ownerOf(-1, 0));
-        refused(x, "ownerOf(4, 0)", OUT, () -> x.ownerOf(4, 0));
-        refused(x, "ownerOf(0, -1)", OUT, () -> x.ownerOf(0, -1));
-        refused(x, "ownerOf(0, 6)", OUT, () -> x.ownerOf(0, 6));
-        refused(x, "ownerOf(3, 6)", OUT, () -> x.ownerOf(3, 6));
+        refused(x, "ownerOf(-1, 0)", OUT, m -> m.ownerOf(-1, 0));
+        refused(x, "ownerOf(4, 0)", OUT, m -> m.ownerOf(4, 0));
+        refused(x, "ownerOf(0, -1)", OUT, m -> m.ownerOf(0, -1));
+        refused(x, "ownerOf(0, 6)", OUT, m -> m.ownerOf(0, 6));
+        refused(x, "ownerOf(3, 6)", OUT, m -> m.ownerOf(3, 6));
     }
 
     private static void reads() {
-        Cellmarket x = new Cellmarket();
+        Traced x = new Traced();
         due("reads", x.reads(3, 3, 5), true);
         due("reads", x.reads(5, 3, 5), false);
         x.let(3, 5, 3, 5, 5, true);
         due("reads", x.reads(5, 3, 5), true);
         due("reads", x.reads(5, 3, 4), false);
         due("reads", x.reads(4, 3, 5), false);
-        refused(x, "reads(-1, 0, 0)", OUT, () -> x.reads(-1, 0, 0));
-        refused(x, "reads(6, 0, 0)", OUT, () -> x.reads(6, 0, 0));
-        refused(x, "reads(0, -1, 0)", OUT, () -> x.reads(0, -1, 0));
-        refused(x, "reads(0, 4, 0)", OUT, () -> x.reads(0, 4, 0));
-        refused(x, "reads(0, 0, -1)", OUT, () -> x.reads(0, 0, -1));
-        refused(x, "reads(0, 0, 6)", OUT, () -> x.reads(0, 0, 6));
+        refused(x, "reads(-1, 0, 0)", OUT, m -> m.reads(-1, 0, 0));
+        refused(x, "reads(6, 0, 0)", OUT, m -> m.reads(6, 0, 0));
+        refused(x, "reads(0, -1, 0)", OUT, m -> m.reads(0, -1, 0));
+        refused(x, "reads(0, 4, 0)", OUT, m -> m.reads(0, 4, 0));
+        refused(x, "reads(0, 0, -1)", OUT, m -> m.reads(0, 0, -1));
+        refused(x, "reads(0, 0, 6)", OUT, m -> m.reads(0, 0, 6));
     }
 
     // ---- formulas
 
     private static void word() {
-        Cellmarket x = new Cellmarket();
-        refused(x, "word(-1)", BAD, () -> x.word(-1, 0, 0));
-        refused(x, "word(15)", BAD, () -> x.word(15, 0, 0));
-        refused(x, "NUMBER 1000001", BAD, () -> x.word(N, 1000001, 0));
-        refused(x, "NUMBER -1000001", BAD, () -> x.word(N, -1000001, 0));
-        refused(x, "NUMBER least int", BAD, () -> x.word(N, Integer.MIN_VALUE, 0));
+        Traced x = new Traced();
+        refused(x, "word(-1)", BAD, m -> m.word(-1, 0, 0));
+        refused(x, "word(15)", BAD, m -> m.word(15, 0, 0));
+        refused(x, "NUMBER 1000001", BAD, m -> m.word(N, 1000001, 0));
+        refused(x, "NUMBER -1000001", BAD, m -> m.word(N, -1000001, 0));
+        refused(x, "NUMBER least int", BAD, m -> m.word(N, Integer.MIN_VALUE, 0));
         for (int what = Cellmarket.CELL; what <= Cellmarket.LAST; what++) {
             int w = what;
-            refused(x, "word " + w + " of column -1", BAD, () -> x.word(w, -1, 0));
-            refused(x, "word " + w + " of column 4", BAD, () -> x.word(w, 4, 0));
+            refused(x, "word " + w + " of column -1", BAD, m -> m.word(w, -1, 0));
+            refused(x, "word " + w + " of column 4", BAD, m -> m.word(w, 4, 0));
         }
-        refused(x, "CELL of row -1", BAD, () -> x.word(C, 0, -1));
-        refused(x, "CELL of row 6", BAD, () -> x.word(C, 0, 6));
+        refused(x, "CELL of row -1", BAD, m -> m.word(C, 0, -1));
+        refused(x, "CELL of row 6", BAD, m -> m.word(C, 0, 6));
         for (int what = Cellmarket.PLUS; what <= Cellmarket.WHEN; what++) {
             int w = what;
-            refused(x, "word " + w + " with nothing on the pile", NOT, () -> x.word(w, 0, 0));
+            refused(x, "word " + w + " with nothing on the pile", NOT, m -> m.word(w, 0, 0));
         }
         due("NUMBER 1000000, whatever two is", x.word(N, 1000000, -77), 1);
         for (int what = Cellmarket.PLUS; what <= Cellmarket.WHEN; what++) {
             int w = what;
-            refused(x, "word " + w + " with one on the pile", NOT, () -> x.word(w, 0, 0));
+            refused(x, "word " + w + " with one on the pile", NOT, m -> m.word(w, 0, 0));
         }
         due("NUMBER -1000000", x.word(N, -1000000, 77), 2);
-        refused(x, "WHEN with two on the pile", NOT, () -> x.word(Cellmarket.WHEN, 0, 0));
+        refused(x, "WHEN with two on the pile", NOT, m -> m.word(Cellmarket.WHEN, 0, 0));
         due("PLUS, whatever one and two are", x.word(Cellmarket.PLUS, Integer.MIN_VALUE, Integer.MAX_VALUE), 3);
         for (int what = Cellmarket.BUY; what <= Cellmarket.LAST; what++) {
             due("word " + what, x.word(what, 3, 99), what + 2);
@@ -317,21 +188,21 @@ public final class PromisesTest {
         due("WHEN", x.word(Cellmarket.WHEN, -9, -9), 10);
         due("CELL", x.word(C, 3, 5), 11);
         due("CELL", x.word(C, 0, 0), 12);
-        refused(x, "a 13th word", NOT, () -> x.word(N, 0, 0));
-        refused(x, "a 13th word that takes", NOT, () -> x.word(Cellmarket.PLUS, 0, 0));
-        refused(x, "a 13th word out of range", BAD, () -> x.word(N, 1000001, 0));
-        refused(x, "a 13th word that is none", BAD, () -> x.word(15, 0, 0));
+        refused(x, "a 13th word", NOT, m -> m.word(N, 0, 0));
+        refused(x, "a 13th word that takes", NOT, m -> m.word(Cellmarket.PLUS, 0, 0));
+        refused(x, "a 13th word out of range", BAD, m -> m.word(N, 1000001, 0));
+        refused(x, "a 13th word that is none", BAD, m -> m.word(15, 0, 0));
         due("words aren't acts", x.events(), 0);
         due("wipe", x.wipe(), 12);
     }
 
     private static void wipe() {
-        Cellmarket x = new Cellmarket();
+        Traced x = new Traced();
         due("wipe", x.wipe(), 0);
         write(x, N, 1, 0, N, 2, 0, N, 3, 0);
         due("wipe", x.wipe(), 3);
         due("wipe again", x.wipe(), 0);
-        refused(x, "PLUS on an empty draft", NOT, () -> x.word(Cellmarket.PLUS, 0, 0));
+        refused(x, "PLUS on an empty draft", NOT, m -> m.word(Cellmarket.PLUS, 0, 0));
         due("word", x.word(N, 4, 0), 1);
         due("enter", x.enter(0, 0, 0), 0);
         due("value", x.value(0, 0, 0), 4);
@@ -340,35 +211,35 @@ public final class PromisesTest {
     }
 
     private static void enter() {
-        Cellmarket x = new Cellmarket();
-        refused(x, "enter nothing", NOT, () -> x.enter(0, 0, 0));
+        Traced x = new Traced();
+        refused(x, "enter nothing", NOT, m -> m.enter(0, 0, 0));
         write(x, N, 7, 0);
-        refused(x, "enter, owner -1", OUT, () -> x.enter(-1, 0, 0));
-        refused(x, "enter, owner 6", OUT, () -> x.enter(6, 0, 0));
-        refused(x, "enter, column -1", OUT, () -> x.enter(0, -1, 0));
-        refused(x, "enter, column 4", OUT, () -> x.enter(0, 4, 0));
-        refused(x, "enter, row -1", OUT, () -> x.enter(0, 0, -1));
-        refused(x, "enter, row 6", OUT, () -> x.enter(0, 0, 6));
-        refused(x, "enter, not the owner's", NOT, () -> x.enter(1, 0, 0));
+        refused(x, "enter, owner -1", OUT, m -> m.enter(-1, 0, 0));
+        refused(x, "enter, owner 6", OUT, m -> m.enter(6, 0, 0));
+        refused(x, "enter, column -1", OUT, m -> m.enter(0, -1, 0));
+        refused(x, "enter, column 4", OUT, m -> m.enter(0, 4, 0));
+        refused(x, "enter, row -1", OUT, m -> m.enter(0, 0, -1));
+        refused(x, "enter, row 6", OUT, m -> m.enter(0, 0, 6));
+        refused(x, "enter, not the owner's", NOT, m -> m.enter(1, 0, 0));
         x.bell(0);
-        refused(x, "enter, frozen", NOT, () -> x.enter(0, 0, 0));
-        refused(x, "enter, frozen, row 6", OUT, () -> x.enter(0, 0, 6));
+        refused(x, "enter, frozen", NOT, m -> m.enter(0, 0, 0));
+        refused(x, "enter, frozen, row 6", OUT, m -> m.enter(0, 0, 6));
         x.bell(0);
         write(x, N, 8, 0);
-        refused(x, "enter two numbers", NOT, () -> x.enter(0, 0, 0));
+        refused(x, "enter two numbers", NOT, m -> m.enter(0, 0, 0));
         due("the draft is kept", x.word(Cellmarket.MINUS, 0, 0), 3);
         due("enter", x.enter(0, 0, 0), 0);
         due("value", x.value(0, 0, 0), -1);
         due("the draft is empty", x.wipe(), 0);
-        refused(x, "enter nothing", NOT, () -> x.enter(0, 0, 0));
+        refused(x, "enter nothing", NOT, m -> m.enter(0, 0, 0));
         x.give(0, 0, 5, 5);
         write(x, N, 6, 0);
-        refused(x, "enter, given away", NOT, () -> x.enter(0, 0, 5));
+        refused(x, "enter, given away", NOT, m -> m.enter(0, 0, 5));
         due("enter", x.enter(5, 0, 5), 1);
         due("value", x.value(5, 0, 5), 6);
         due("events", x.events(), 5);
         write(x, N, 1, 0, N, 1, 0, 8, 0, 0, N, 1, 0, 8, 0, 0, N, 1, 0, 8, 0, 0, N, 1, 0, 8, 0, 0, N, 1, 0);
-        refused(x, "twelve words that leave two", NOT, () -> x.enter(1, 1, 0));
+        refused(x, "twelve words that leave two", NOT, m -> m.enter(1, 1, 0));
         x.wipe();
         write(x, N, 0, 0, N, 1, 0, 8, 0, 0, N, 1, 0, 8, 0, 0, N, 1, 0, 8, 0, 0, N, 1, 0, N, 1, 0, 14, 0, 0, C, 0, 0);
         x.wipe();
@@ -379,32 +250,32 @@ public final class PromisesTest {
     }
 
     private static void sixtyEdits() {
-        Cellmarket x = new Cellmarket();
+        Traced x = new Traced();
         for (int i = 0; i < 60; i++) {
             due("edit", i % 2 == 0 ? number(x, i % 4, i % 6, i) : x.empty(i % 4, i % 4, i % 6), i);
         }
         write(x, N, 1, 0);
-        refused(x, "a 61st edit", NOT, () -> x.enter(0, 0, 0));
-        refused(x, "a 61st edit that empties", NOT, () -> x.empty(0, 0, 0));
-        refused(x, "a 61st edit, no such row", OUT, () -> x.empty(0, 0, 6));
+        refused(x, "a 61st edit", NOT, m -> m.enter(0, 0, 0));
+        refused(x, "a 61st edit that empties", NOT, m -> m.empty(0, 0, 0));
+        refused(x, "a 61st edit, no such row", OUT, m -> m.empty(0, 0, 6));
         x.strikeEdit(0);
-        refused(x, "a 61st edit, one struck", NOT, () -> x.enter(0, 0, 0));
+        refused(x, "a 61st edit, one struck", NOT, m -> m.enter(0, 0, 0));
         due("the draft is kept", x.wipe(), 1);
         due("strikeEdit(59)", x.strikeEdit(59), 0);
-        refused(x, "strikeEdit(60)", OUT, () -> x.strikeEdit(60));
+        refused(x, "strikeEdit(60)", OUT, m -> m.strikeEdit(60));
     }
 
     private static void empty() {
-        Cellmarket x = new Cellmarket();
+        Traced x = new Traced();
         number(x, 0, 0, 9);
         write(x, N, 1, 0);
-        refused(x, "empty, owner -1", OUT, () -> x.empty(-1, 0, 0));
-        refused(x, "empty, owner 6", OUT, () -> x.empty(6, 0, 0));
-        refused(x, "empty, column -1", OUT, () -> x.empty(0, -1, 0));
-        refused(x, "empty, column 4", OUT, () -> x.empty(0, 4, 0));
-        refused(x, "empty, row -1", OUT, () -> x.empty(0, 0, -1));
-        refused(x, "empty, row 6", OUT, () -> x.empty(0, 0, 6));
-        refused(x, "empty, not the owner's", NOT, () -> x.empty(1, 0, 0));
+        refused(x, "empty, owner -1", OUT, m -> m.empty(-1, 0, 0));
+        refused(x, "empty, owner 6", OUT, m -> m.empty(6, 0, 0));
+        refused(x, "empty, column -1", OUT, m -> m.empty(0, -1, 0));
+        refused(x, "empty, column 4", OUT, m -> m.empty(0, 4, 0));
+        refused(x, "empty, row -1", OUT, m -> m.empty(0, 0, -1));
+        refused(x, "empty, row 6", OUT, m -> m.empty(0, 0, 6));
+        refused(x, "empty, not the owner's", NOT, m -> m.empty(1, 0, 0));
         due("empty", x.empty(0, 0, 0), 1);
         due("value", x.value(0, 0, 0), 0);
         due("edits", x.edits(0, 0), 2);
@@ -414,21 +285,21 @@ public final class PromisesTest {
         due("the draft stays", x.word(N, 2, 0), 2);
         due("events", x.events(), 4);
         x.bell(0);
-        refused(x, "empty, frozen", NOT, () -> x.empty(0, 0, 0));
+        refused(x, "empty, frozen", NOT, m -> m.empty(0, 0, 0));
         due("another column", x.empty(1, 1, 0), 4);
         x.bell(0);
         due("open again", x.empty(0, 0, 0), 5);
     }
 
     private static void notice() {
-        Cellmarket x = new Cellmarket();
+        Traced x = new Traced();
         due("notice", x.notice(0, 50), 0);
         due("notice", x.notice(0, 3), 50);
         due("another column's notice", x.notice(3, 0), 0);
-        refused(x, "notice of -1", BAD, () -> x.notice(0, -1));
-        refused(x, "notice of 51", BAD, () -> x.notice(0, 51));
-        refused(x, "notice, column -1", OUT, () -> x.notice(-1, 51));
-        refused(x, "notice, column 4", OUT, () -> x.notice(4, 0));
+        refused(x, "notice of -1", BAD, m -> m.notice(0, -1));
+        refused(x, "notice of 51", BAD, m -> m.notice(0, 51));
+        refused(x, "notice, column -1", OUT, m -> m.notice(-1, 51));
+        refused(x, "notice, column 4", OUT, m -> m.notice(4, 0));
         number(x, 0, 0, 5);
         due("first event at which it counts", x.edit(0, 0, 0, 2), 6);
         due("notice", x.notice(0, 0), 3);
@@ -452,7 +323,7 @@ public final class PromisesTest {
     }
 
     private static void laterToldCounts() {
-        Cellmarket x = new Cellmarket();
+        Traced x = new Traced();
         x.notice(1, 5);
         number(x, 1, 0, 11);
         x.notice(1, 0);
@@ -476,7 +347,7 @@ public final class PromisesTest {
     }
 
     private static void reckoning() {
-        Cellmarket x = new Cellmarket();
+        Traced x = new Traced();
         int[][] sums = {
             {8, 7, -9, -2}, {9, 7, -9, 16}, {10, 7, -9, -63}, {11, 7, -9, 0}, {11, -7, 2, -3}, {11, 7, -2, -3}, {11, -7, -2, 3},
             {11, 6, 3, 2}, {12, 7, -9, -9}, {12, -9, 7, -9}, {13, 7, -9, 7}, {13, -9, 7, 7}, {11, 0, 5, 0}, {9, 3, 3, 0}
@@ -502,30 +373,30 @@ public final class PromisesTest {
     }
 
     private static void value() {
-        Cellmarket x = new Cellmarket();
+        Traced x = new Traced();
         number(x, 2, 5, 31);
         due("value", x.value(2, 2, 5), 31);
-        refused(x, "value, not read", NOT, () -> x.value(0, 2, 5));
-        refused(x, "value of an empty cell, not read", NOT, () -> x.value(0, 2, 4));
+        refused(x, "value, not read", NOT, m -> m.value(0, 2, 5));
+        refused(x, "value of an empty cell, not read", NOT, m -> m.value(0, 2, 4));
         x.let(2, 0, 2, 5, 5, true);
         due("value, read", x.value(0, 2, 5), 31);
         x.let(2, 0, 2, 5, 5, false);
-        refused(x, "value, read no more", NOT, () -> x.value(0, 2, 5));
-        refused(x, "value, owner -1", OUT, () -> x.value(-1, 0, 0));
-        refused(x, "value, owner 6", OUT, () -> x.value(6, 0, 0));
-        refused(x, "value, column -1", OUT, () -> x.value(0, -1, 0));
-        refused(x, "value, column 4", OUT, () -> x.value(0, 4, 0));
-        refused(x, "value, row -1", OUT, () -> x.value(0, 0, -1));
-        refused(x, "value, row 6", OUT, () -> x.value(0, 0, 6));
+        refused(x, "value, read no more", NOT, m -> m.value(0, 2, 5));
+        refused(x, "value, owner -1", OUT, m -> m.value(-1, 0, 0));
+        refused(x, "value, owner 6", OUT, m -> m.value(6, 0, 0));
+        refused(x, "value, column -1", OUT, m -> m.value(0, -1, 0));
+        refused(x, "value, column 4", OUT, m -> m.value(0, 4, 0));
+        refused(x, "value, row -1", OUT, m -> m.value(0, 0, -1));
+        refused(x, "value, row 6", OUT, m -> m.value(0, 0, 6));
         formula(x, 2, 4, C, 2, 5, N, 0, 0, Cellmarket.OVER, 0, 0);
         due("value with a fault", x.value(2, 2, 4), 0);
         x.give(2, 2, 5, 1);
-        refused(x, "value, given away", NOT, () -> x.value(2, 2, 5));
+        refused(x, "value, given away", NOT, m -> m.value(2, 2, 5));
         due("value for the new owner", x.value(1, 2, 5), 31);
     }
 
     private static void valueOfTheMarket() {
-        Cellmarket x = new Cellmarket();
+        Traced x = new Traced();
         for (int r = 0; r < 5; r++) {
             formula(x, 3, r, Cellmarket.BUY + r, 1, 0);
         }
@@ -555,14 +426,14 @@ public final class PromisesTest {
         expectMarket(x, 7, 0, 2, 0, 1);
     }
 
-    private static void expectMarket(Cellmarket x, int... want) {
+    private static void expectMarket(Traced x, int... want) {
         for (int r = 0; r < 5; r++) {
             due("market word " + (Cellmarket.BUY + r), x.value(3, 3, r), want[r]);
         }
     }
 
     private static void valueOfLast() {
-        Cellmarket x = new Cellmarket();
+        Traced x = new Traced();
         formula(x, 0, 0, Cellmarket.LAST, 1, 0);
         due("LAST without", x.value(0, 0, 0), 0);
         round(x, 1);
@@ -591,7 +462,7 @@ public final class PromisesTest {
     }
 
     private static void fault() {
-        Cellmarket x = new Cellmarket();
+        Traced x = new Traced();
         formula(x, 0, 0, N, 5, 0, N, 0, 0, Cellmarket.OVER, 0, 0);
         due("DIVISION", x.fault(0, 0, 0), Cellmarket.DIVISION);
         formula(x, 0, 1, C, 0, 0);
@@ -623,7 +494,7 @@ public final class PromisesTest {
     }
 
     private static void faultOfRange() {
-        Cellmarket x = new Cellmarket();
+        Traced x = new Traced();
         int[][] edges = {{1000000, 1000, 0, 0}, {1000000, 1000, 1, 4}, {-1000000, 1000, 0, 0}, {-1000000, 1000, -1, 4},
             {1000000, 1000, -1, 0}, {1000000, 1001, 0, 4}, {1000000, 1000000, 0, 4}};
         for (int[] e : edges) {
@@ -641,14 +512,14 @@ public final class PromisesTest {
     }
 
     private static void faultIsAskedBy() {
-        Cellmarket x = new Cellmarket();
-        refused(x, "fault, not read", NOT, () -> x.fault(0, 2, 5));
-        refused(x, "fault, owner -1", OUT, () -> x.fault(-1, 0, 0));
-        refused(x, "fault, owner 6", OUT, () -> x.fault(6, 0, 0));
-        refused(x, "fault, column -1", OUT, () -> x.fault(0, -1, 0));
-        refused(x, "fault, column 4", OUT, () -> x.fault(0, 4, 0));
-        refused(x, "fault, row -1", OUT, () -> x.fault(0, 0, -1));
-        refused(x, "fault, row 6", OUT, () -> x.fault(0, 0, 6));
+        Traced x = new Traced();
+        refused(x, "fault, not read", NOT, m -> m.fault(0, 2, 5));
+        refused(x, "fault, owner -1", OUT, m -> m.fault(-1, 0, 0));
+        refused(x, "fault, owner 6", OUT, m -> m.fault(6, 0, 0));
+        refused(x, "fault, column -1", OUT, m -> m.fault(0, -1, 0));
+        refused(x, "fault, column 4", OUT, m -> m.fault(0, 4, 0));
+        refused(x, "fault, row -1", OUT, m -> m.fault(0, 0, -1));
+        refused(x, "fault, row 6", OUT, m -> m.fault(0, 0, 6));
         number(x, 1, 0, 6);
         formula(x, 0, 0, C, 1, 0);
         due("the owner of the asking cell counts", x.fault(0, 0, 0), Cellmarket.HIDDEN);
@@ -663,7 +534,7 @@ public final class PromisesTest {
 
     /** Each cell asks the next one several times: without keeping what was found this would not end in time. */
     private static void longChain() {
-        Cellmarket x = new Cellmarket();
+        Traced x = new Traced();
         letAll(x);
         for (int i = 0; i < 23; i++) {
             int c = (i + 1) / 6;
@@ -681,7 +552,7 @@ public final class PromisesTest {
     }
 
     private static void pileOfEachCell() {
-        Cellmarket x = new Cellmarket();
+        Traced x = new Traced();
         formula(x, 0, 0, N, 1000, 0, N, 200, 0, C, 0, 1, 9, 0, 0, 9, 0, 0);
         formula(x, 0, 1, N, 50, 0, N, 7, 0, C, 0, 2, N, 4, 0, 14, 0, 0, 9, 0, 0);
         formula(x, 0, 2, N, 30, 0, N, 20, 0, N, 10, 0, 9, 0, 0, 9, 0, 0);
@@ -691,7 +562,7 @@ public final class PromisesTest {
     }
 
     private static void edits() {
-        Cellmarket x = new Cellmarket();
+        Traced x = new Traced();
         number(x, 0, 0, 1);
         number(x, 0, 1, 1);
         x.empty(0, 0, 0);
@@ -702,14 +573,14 @@ public final class PromisesTest {
         due("edits", x.edits(1, 1), 0);
         x.strikeEdit(0);
         due("edits, one struck", x.edits(0, 0), 2);
-        refused(x, "edits(-1, 0)", OUT, () -> x.edits(-1, 0));
-        refused(x, "edits(4, 0)", OUT, () -> x.edits(4, 0));
-        refused(x, "edits(0, -1)", OUT, () -> x.edits(0, -1));
-        refused(x, "edits(0, 6)", OUT, () -> x.edits(0, 6));
+        refused(x, "edits(-1, 0)", OUT, m -> m.edits(-1, 0));
+        refused(x, "edits(4, 0)", OUT, m -> m.edits(4, 0));
+        refused(x, "edits(0, -1)", OUT, m -> m.edits(0, -1));
+        refused(x, "edits(0, 6)", OUT, m -> m.edits(0, 6));
     }
 
     private static void edit() {
-        Cellmarket x = new Cellmarket();
+        Traced x = new Traced();
         wait(x, 3);
         number(x, 0, 0, 1);
         x.give(0, 0, 1, 5);
@@ -730,43 +601,37 @@ public final class PromisesTest {
         expectEdit(x, 0, 1, 0, 1, 6, 10, 5, 3, 0, 1);
         expectEdit(x, 0, 1, 1, 2, 7, 11, 5, 0, 1, 0);
         for (int off : new int[] {-1, 7, Integer.MIN_VALUE, Integer.MAX_VALUE}) {
-            refused(x, "edit, what " + off, BAD, () -> x.edit(0, 0, 0, off));
-            refused(x, "edit, place 1 and what " + off, OUT, () -> x.edit(0, 0, 1, off));
+            refused(x, "edit, what " + off, BAD, m -> m.edit(0, 0, 0, off));
+            refused(x, "edit, place 1 and what " + off, OUT, m -> m.edit(0, 0, 1, off));
         }
-        refused(x, "edit, place -1", OUT, () -> x.edit(0, 0, -1, 0));
-        refused(x, "edit, place 2", OUT, () -> x.edit(0, 1, 2, 0));
-        refused(x, "edit of a cell without", OUT, () -> x.edit(1, 0, 0, 0));
-        refused(x, "edit, column -1", OUT, () -> x.edit(-1, 0, 0, 0));
-        refused(x, "edit, column 4", OUT, () -> x.edit(4, 0, 0, 0));
-        refused(x, "edit, row -1", OUT, () -> x.edit(0, -1, 0, 0));
-        refused(x, "edit, row 6", OUT, () -> x.edit(0, 6, 0, 0));
-    }
-
-    private static void expectEdit(Cellmarket x, int column, int row, int place, int... want) {
-        for (int what = 0; what < 7; what++) {
-            due("edit(" + column + ", " + row + ", " + place + ", " + what + ")", x.edit(column, row, place, what), want[what]);
-        }
+        refused(x, "edit, place -1", OUT, m -> m.edit(0, 0, -1, 0));
+        refused(x, "edit, place 2", OUT, m -> m.edit(0, 1, 2, 0));
+        refused(x, "edit of a cell without", OUT, m -> m.edit(1, 0, 0, 0));
+        refused(x, "edit, column -1", OUT, m -> m.edit(-1, 0, 0, 0));
+        refused(x, "edit, column 4", OUT, m -> m.edit(4, 0, 0, 0));
+        refused(x, "edit, row -1", OUT, m -> m.edit(0, -1, 0, 0));
+        refused(x, "edit, row 6", OUT, m -> m.edit(0, 6, 0, 0));
     }
 
     // ---- bids and rounds
 
     private static void bid() {
-        Cellmarket x = new Cellmarket();
+        Traced x = new Traced();
         due("bid", x.bid(0, 0, true, 1, 0), 0);
         due("bid", x.bid(5, 3, false, 100, 9999), 1);
         due("bid", x.bid(5, 3, true, 10, 9999), 2);
-        refused(x, "bid, owner -1", OUT, () -> x.bid(-1, 0, true, 0, 0));
-        refused(x, "bid, owner 6", OUT, () -> x.bid(6, 0, true, 1, 0));
-        refused(x, "bid, column -1", OUT, () -> x.bid(0, -1, true, 1, -1));
-        refused(x, "bid, column 4", OUT, () -> x.bid(0, 4, true, 1, 0));
-        refused(x, "bid for 0", BAD, () -> x.bid(0, 0, true, 0, 0));
-        refused(x, "bid for 101", BAD, () -> x.bid(0, 0, true, 101, 0));
-        refused(x, "bid for the least int", BAD, () -> x.bid(0, 0, false, Integer.MIN_VALUE, 0));
-        refused(x, "bid at -1", BAD, () -> x.bid(0, 0, false, 1, -1));
-        refused(x, "bid at 10000", BAD, () -> x.bid(0, 0, true, 1, 10000));
+        refused(x, "bid, owner -1", OUT, m -> m.bid(-1, 0, true, 0, 0));
+        refused(x, "bid, owner 6", OUT, m -> m.bid(6, 0, true, 1, 0));
+        refused(x, "bid, column -1", OUT, m -> m.bid(0, -1, true, 1, -1));
+        refused(x, "bid, column 4", OUT, m -> m.bid(0, 4, true, 1, 0));
+        refused(x, "bid for 0", BAD, m -> m.bid(0, 0, true, 0, 0));
+        refused(x, "bid for 101", BAD, m -> m.bid(0, 0, true, 101, 0));
+        refused(x, "bid for the least int", BAD, m -> m.bid(0, 0, false, Integer.MIN_VALUE, 0));
+        refused(x, "bid at -1", BAD, m -> m.bid(0, 0, false, 1, -1));
+        refused(x, "bid at 10000", BAD, m -> m.bid(0, 0, true, 1, 10000));
         x.bell(0);
-        refused(x, "bid, frozen", NOT, () -> x.bid(0, 0, false, 1, 1));
-        refused(x, "bid, frozen and for 0", BAD, () -> x.bid(0, 0, false, 0, 1));
+        refused(x, "bid, frozen", NOT, m -> m.bid(0, 0, false, 1, 1));
+        refused(x, "bid, frozen and for 0", BAD, m -> m.bid(0, 0, false, 0, 1));
         due("bid in another column", x.bid(0, 1, false, 1, 1), 3);
         x.bell(0);
         due("bid, open again", x.bid(0, 0, false, 1, 1), 4);
@@ -774,81 +639,81 @@ public final class PromisesTest {
     }
 
     private static void bidAndLimit() {
-        Cellmarket x = new Cellmarket();
+        Traced x = new Traced();
         due("up to the limit", x.bid(0, 0, true, 100, 1000), 0);
-        refused(x, "above the limit", NOT, () -> x.bid(0, 0, true, 1, 1));
+        refused(x, "above the limit", NOT, m -> m.bid(0, 0, true, 1, 1));
         due("with a limit of 0", x.bid(0, 1, true, 100, 0), 1);
         due("to sell", x.bid(0, 0, false, 100, 9999), 2);
         due("another owner", x.bid(1, 0, true, 99, 1000), 3);
-        refused(x, "above the limit", NOT, () -> x.bid(1, 3, true, 1, 1001));
+        refused(x, "above the limit", NOT, m -> m.bid(1, 3, true, 1, 1001));
         due("up to the limit", x.bid(1, 3, true, 1, 1000), 4);
         x.withdraw(1, 4);
         due("instead of what was withdrawn", x.bid(1, 2, true, 1, 1000), 5);
         x.limit(1, 0);
-        refused(x, "above a limit of 0", NOT, () -> x.bid(1, 3, true, 1, 1));
-        refused(x, "even at 0, as there are others", NOT, () -> x.bid(1, 3, true, 1, 0));
+        refused(x, "above a limit of 0", NOT, m -> m.bid(1, 3, true, 1, 1));
+        refused(x, "even at 0, as there are others", NOT, m -> m.bid(1, 3, true, 1, 0));
         x.limit(2, 0);
         due("at 0 with a limit of 0", x.bid(2, 3, true, 1, 0), 6);
         x.bell(0);
-        refused(x, "frozen bids count", NOT, () -> x.bid(0, 1, true, 1, 1));
+        refused(x, "frozen bids count", NOT, m -> m.bid(0, 1, true, 1, 1));
         x.bell(0);
         due("cleared bids don't count", x.bid(0, 1, true, 100, 1000), 7);
     }
 
     private static void bidAndDues() {
-        Cellmarket x = new Cellmarket();
+        Traced x = new Traced();
         number(x, 0, 0, 50);
         x.limit(1, 1000);
         x.bid(1, 0, true, 10, 60);
         x.bid(2, 0, false, 10, 50);
         round(x, 0);
         due("due", x.due(1, 0), 500);
-        refused(x, "a due counts", NOT, () -> x.bid(1, 1, true, 1, 501));
+        refused(x, "a due counts", NOT, m -> m.bid(1, 1, true, 1, 501));
         due("up to the limit with a due", x.bid(1, 1, true, 1, 500), 2);
         due("exposure", x.exposure(1), 1000);
         x.limit(2, 100);
-        refused(x, "a due below 0 doesn't count", NOT, () -> x.bid(2, 1, true, 1, 101));
+        refused(x, "a due below 0 doesn't count", NOT, m -> m.bid(2, 1, true, 1, 101));
         due("a due below 0 doesn't count", x.bid(2, 1, true, 1, 100), 3);
         x.settle(0);
         due("a settled due doesn't count", x.bid(1, 1, true, 1, 500), 4);
     }
 
     private static void eightyBids() {
-        Cellmarket x = new Cellmarket();
+        Traced x = new Traced();
         for (int i = 0; i < 80; i++) {
             due("bid", x.bid(i % 6, i % 4, i % 2 == 0, 1, i), i);
         }
-        refused(x, "an 81st bid", NOT, () -> x.bid(0, 0, false, 1, 1));
-        refused(x, "an 81st bid, for 0", BAD, () -> x.bid(0, 0, false, 0, 1));
-        refused(x, "an 81st bid, owner 6", OUT, () -> x.bid(6, 0, false, 1, 1));
+        refused(x, "an 81st bid", NOT, m -> m.bid(0, 0, false, 1, 1));
+        refused(x, "an 81st bid, for 0", BAD, m -> m.bid(0, 0, false, 0, 1));
+        refused(x, "an 81st bid, owner 6", OUT, m -> m.bid(6, 0, false, 1, 1));
         x.withdraw(0, 0);
-        refused(x, "an 81st bid, one withdrawn", NOT, () -> x.bid(0, 0, false, 1, 1));
+        refused(x, "an 81st bid, one withdrawn", NOT, m -> m.bid(0, 0, false, 1, 1));
         round(x, 0);
         x.strikeBid(0);
-        refused(x, "an 81st bid, one struck", NOT, () -> x.bid(0, 0, false, 1, 1));
+        refused(x, "an 81st bid, one struck", NOT, m -> m.bid(0, 0, false, 1, 1));
         due("got", x.got(79), 0);
-        refused(x, "got(80)", OUT, () -> x.got(80));
+        refused(x, "got(80)", OUT, m -> m.got(80));
     }
 
     private static void withdraw() {
-        Cellmarket x = new Cellmarket();
-        refused(x, "withdraw, none made", OUT, () -> x.withdraw(0, 0));
+        Traced x = new Traced();
+        refused(x, "withdraw, none made", OUT, m -> m.withdraw(0, 0));
         x.bid(0, 0, true, 3, 10);
         x.bid(1, 0, true, 4, 10);
         x.bid(1, 1, false, 5, 10);
-        refused(x, "withdraw, owner -1", OUT, () -> x.withdraw(-1, 0));
-        refused(x, "withdraw, owner 6", OUT, () -> x.withdraw(6, 0));
-        refused(x, "withdraw, bid -1", OUT, () -> x.withdraw(0, -1));
-        refused(x, "withdraw, bid 3", OUT, () -> x.withdraw(0, 3));
-        refused(x, "withdraw another's", NOT, () -> x.withdraw(0, 1));
+        refused(x, "withdraw, owner -1", OUT, m -> m.withdraw(-1, 0));
+        refused(x, "withdraw, owner 6", OUT, m -> m.withdraw(6, 0));
+        refused(x, "withdraw, bid -1", OUT, m -> m.withdraw(0, -1));
+        refused(x, "withdraw, bid 3", OUT, m -> m.withdraw(0, 3));
+        refused(x, "withdraw another's", NOT, m -> m.withdraw(0, 1));
         due("withdraw", x.withdraw(0, 0), 3);
         due("exposure", x.exposure(0), 0);
-        refused(x, "withdraw again", NOT, () -> x.withdraw(0, 0));
+        refused(x, "withdraw again", NOT, m -> m.withdraw(0, 0));
         x.bell(0);
-        refused(x, "withdraw, frozen", NOT, () -> x.withdraw(1, 1));
+        refused(x, "withdraw, frozen", NOT, m -> m.withdraw(1, 1));
         due("withdraw in another column", x.withdraw(1, 2), 5);
         x.bell(0);
-        refused(x, "withdraw, cleared", NOT, () -> x.withdraw(1, 1));
+        refused(x, "withdraw, cleared", NOT, m -> m.withdraw(1, 1));
         due("events", x.events(), 7);
         number(x, 0, 0, 10);
         x.bid(1, 0, true, 2, 10);
@@ -860,19 +725,19 @@ public final class PromisesTest {
     }
 
     private static void share() {
-        Cellmarket x = new Cellmarket();
+        Traced x = new Traced();
         due("share", x.share(0, true), false);
         due("share again", x.share(0, true), true);
         due("share of another column", x.share(1, true), false);
         due("share back", x.share(0, false), true);
         due("share back again", x.share(0, false), false);
         due("events", x.events(), 5);
-        refused(x, "share, column -1", OUT, () -> x.share(-1, true));
-        refused(x, "share, column 4", OUT, () -> x.share(4, true));
+        refused(x, "share, column -1", OUT, m -> m.share(-1, true));
+        refused(x, "share, column 4", OUT, m -> m.share(4, true));
     }
 
     private static void sharingByOrder() {
-        Cellmarket x = new Cellmarket();
+        Traced x = new Traced();
         number(x, 0, 0, 50);
         int[] limits = {50, 60, 49, 60, 99, 50};
         for (int i = 0; i < 6; i++) {
@@ -895,7 +760,7 @@ public final class PromisesTest {
     }
 
     private static void sharingByShares() {
-        Cellmarket x = new Cellmarket();
+        Traced x = new Traced();
         number(x, 0, 0, 50);
         x.share(0, true);
         x.bid(0, 0, true, 5, 50);
@@ -925,7 +790,7 @@ public final class PromisesTest {
     }
 
     private static void shareCountsAtTheFreezing() {
-        Cellmarket x = new Cellmarket();
+        Traced x = new Traced();
         number(x, 0, 0, 50);
         x.bid(0, 0, true, 4, 50);
         x.bid(1, 0, true, 4, 60);
@@ -946,14 +811,8 @@ public final class PromisesTest {
         expectGot(x, 0, 0, 4, 4, 2, 2, 4);
     }
 
-    private static void expectGot(Cellmarket x, int first, int... want) {
-        for (int i = 0; i < want.length; i++) {
-            due("got(" + (first + i) + ")", x.got(first + i), want[i]);
-        }
-    }
-
     private static void bell() {
-        Cellmarket x = new Cellmarket();
+        Traced x = new Traced();
         due("bell", x.bell(3), Cellmarket.NONE);
         due("isFrozen", x.isFrozen(3), true);
         due("isFrozen", x.isFrozen(0), false);
@@ -964,23 +823,23 @@ public final class PromisesTest {
         due("column", x.round(0, 0), 0);
         due("column", x.round(1, 0), 3);
         due("events", x.events(), 4);
-        refused(x, "bell(-1)", OUT, () -> x.bell(-1));
-        refused(x, "bell(4)", OUT, () -> x.bell(4));
+        refused(x, "bell(-1)", OUT, m -> m.bell(-1));
+        refused(x, "bell(4)", OUT, m -> m.bell(4));
         for (int i = 2; i < 30; i++) {
             due("round", round(x, i % 4), i);
         }
         for (int c = 0; c < 4; c++) {
             int column = c;
             due("freezing is not refused", x.bell(c), Cellmarket.NONE);
-            refused(x, "a 31st round", NOT, () -> x.bell(column));
+            refused(x, "a 31st round", NOT, m -> m.bell(column));
             due("isFrozen", x.isFrozen(c), true);
         }
-        refused(x, "bell(4)", OUT, () -> x.bell(4));
+        refused(x, "bell(4)", OUT, m -> m.bell(4));
         due("the last round", x.round(29, 4), Cellmarket.EMPTY);
     }
 
     private static void bellTakesWhatHeldThen() {
-        Cellmarket x = new Cellmarket();
+        Traced x = new Traced();
         letAll(x);
         number(x, 1, 2, 30);
         formula(x, 0, 0, C, 1, 2, Cellmarket.BUYS, 1, 0, 8, 0, 0, Cellmarket.LAST, 1, 0, 8, 0, 0);
@@ -1007,7 +866,7 @@ public final class PromisesTest {
     }
 
     private static void bellAndNotice() {
-        Cellmarket x = new Cellmarket();
+        Traced x = new Traced();
         number(x, 0, 0, 5);
         x.notice(0, 3);
         number(x, 0, 0, 6);
@@ -1024,7 +883,7 @@ public final class PromisesTest {
     }
 
     private static void isFrozen() {
-        Cellmarket x = new Cellmarket();
+        Traced x = new Traced();
         for (int c = 0; c < 4; c++) {
             due("isFrozen", x.isFrozen(c), false);
             x.bell(c);
@@ -1034,15 +893,15 @@ public final class PromisesTest {
         due("isFrozen", x.isFrozen(2), false);
         due("isFrozen", x.isFrozen(1), true);
         due("events", x.events(), 5);
-        refused(x, "isFrozen(-1)", OUT, () -> x.isFrozen(-1));
-        refused(x, "isFrozen(4)", OUT, () -> x.isFrozen(4));
+        refused(x, "isFrozen(-1)", OUT, m -> m.isFrozen(-1));
+        refused(x, "isFrozen(4)", OUT, m -> m.isFrozen(4));
     }
 
     private static void round() {
-        Cellmarket x = new Cellmarket();
-        refused(x, "round, none cleared", OUT, () -> x.round(0, 0));
+        Traced x = new Traced();
+        refused(x, "round, none cleared", OUT, m -> m.round(0, 0));
         x.bell(2);
-        refused(x, "round, only frozen", OUT, () -> x.round(0, 0));
+        refused(x, "round, only frozen", OUT, m -> m.round(0, 0));
         x.bell(2);
         expectRound(x, 0, 2, -1, 0, 0, Cellmarket.EMPTY, 0);
         number(x, 2, 0, 21);
@@ -1062,15 +921,15 @@ public final class PromisesTest {
         round(x, 2);
         expectRound(x, 3, 2, 0, 5, 100, 0, 0);
         for (int off : new int[] {-1, 6, Integer.MIN_VALUE, Integer.MAX_VALUE}) {
-            refused(x, "round, what " + off, BAD, () -> x.round(0, off));
-            refused(x, "round 4, what " + off, OUT, () -> x.round(4, off));
+            refused(x, "round, what " + off, BAD, m -> m.round(0, off));
+            refused(x, "round 4, what " + off, OUT, m -> m.round(4, off));
         }
-        refused(x, "round -1", OUT, () -> x.round(-1, 0));
-        refused(x, "round 4", OUT, () -> x.round(4, 0));
+        refused(x, "round -1", OUT, m -> m.round(-1, 0));
+        refused(x, "round 4", OUT, m -> m.round(4, 0));
     }
 
     private static void roundVoidByFaults() {
-        Cellmarket x = new Cellmarket();
+        Traced x = new Traced();
         formula(x, 0, 0, C, 1, 0);
         round(x, 0);
         expectRound(x, 0, 0, -1, 0, 0, Cellmarket.HIDDEN, 0);
@@ -1098,7 +957,7 @@ public final class PromisesTest {
     }
 
     private static void roundFee() {
-        Cellmarket x = new Cellmarket();
+        Traced x = new Traced();
         number(x, 0, 0, 10);
         int[][] fees = {{-1, 0}, {0, 0}, {1, 1}, {999, 999}, {1000, 1000}, {1001, 1000}, {1000000, 1000}};
         for (int[] fee : fees) {
@@ -1116,15 +975,9 @@ public final class PromisesTest {
         due("price in a circle", x.round(10, 4), Cellmarket.CIRCLE);
     }
 
-    private static void expectRound(Cellmarket x, int round, int... want) {
-        for (int what = 0; what < 6; what++) {
-            due("round(" + round + ", " + what + ")", x.round(round, what), want[what]);
-        }
-    }
-
     private static void priceAnew() {
-        Cellmarket x = new Cellmarket();
-        refused(x, "priceAnew, none cleared", OUT, () -> x.priceAnew(0));
+        Traced x = new Traced();
+        refused(x, "priceAnew, none cleared", OUT, m -> m.priceAnew(0));
         formula(x, 0, 0, Cellmarket.LAST, 0, 0, N, 10, 0, 8, 0, 0);
         x.bid(0, 0, true, 4, 99);
         x.bid(1, 0, false, 3, 1);
@@ -1137,18 +990,17 @@ public final class PromisesTest {
         x.empty(0, 0, 0);
         round(x, 0);
         due("priceAnew without", x.priceAnew(5), Cellmarket.NONE);
-        String before = picture(x);
         due("priceAnew of an early one", x.priceAnew(1), 20);
-        due("nothing changed", before.equals(picture(x)), true);
+        unchanged(x, "priceAnew of an early one", m -> m.priceAnew(1));
         x.strikeEdit(0);
         due("priceAnew, struck", x.priceAnew(4), Cellmarket.NONE);
-        refused(x, "priceAnew(-1)", OUT, () -> x.priceAnew(-1));
-        refused(x, "priceAnew(6)", OUT, () -> x.priceAnew(6));
+        refused(x, "priceAnew(-1)", OUT, m -> m.priceAnew(-1));
+        refused(x, "priceAnew(6)", OUT, m -> m.priceAnew(6));
     }
 
     private static void got() {
-        Cellmarket x = new Cellmarket();
-        refused(x, "got, none made", OUT, () -> x.got(0));
+        Traced x = new Traced();
+        refused(x, "got, none made", OUT, m -> m.got(0));
         number(x, 0, 0, 10);
         x.bid(0, 0, true, 4, 10);
         x.bid(1, 0, false, 3, 10);
@@ -1164,14 +1016,14 @@ public final class PromisesTest {
         x.strikeBid(1);
         due("got, struck", x.got(1), 0);
         due("got, the other one struck", x.got(0), 0);
-        refused(x, "got(-1)", OUT, () -> x.got(-1));
-        refused(x, "got(2)", OUT, () -> x.got(2));
+        refused(x, "got(-1)", OUT, m -> m.got(-1));
+        refused(x, "got(2)", OUT, m -> m.got(2));
     }
 
     // ---- settling, limits
 
     private static void due() {
-        Cellmarket x = new Cellmarket();
+        Traced x = new Traced();
         number(x, 0, 0, 7);
         number(x, 0, 1, 333);
         x.bid(1, 0, true, 3, 7);
@@ -1195,14 +1047,14 @@ public final class PromisesTest {
         due("by columns", x.due(1, 0), 54);
         due("by columns", x.due(1, 1), -100);
         due("by columns", x.due(2, 1), 100);
-        refused(x, "due(-1, 0)", OUT, () -> x.due(-1, 0));
-        refused(x, "due(6, 0)", OUT, () -> x.due(6, 0));
-        refused(x, "due(0, -1)", OUT, () -> x.due(0, -1));
-        refused(x, "due(0, 4)", OUT, () -> x.due(0, 4));
+        refused(x, "due(-1, 0)", OUT, m -> m.due(-1, 0));
+        refused(x, "due(6, 0)", OUT, m -> m.due(6, 0));
+        refused(x, "due(0, -1)", OUT, m -> m.due(0, -1));
+        refused(x, "due(0, 4)", OUT, m -> m.due(0, 4));
     }
 
     private static void settle() {
-        Cellmarket x = new Cellmarket();
+        Traced x = new Traced();
         due("settle nothing", x.settle(0), 0);
         due("settle is an act", x.events(), 1);
         number(x, 0, 0, 1);
@@ -1220,12 +1072,12 @@ public final class PromisesTest {
         }
         due("settle again", x.settle(0), 0);
         expectCash(x, -1, -1, 0, 2, 0, 0);
-        refused(x, "settle(-1)", OUT, () -> x.settle(-1));
-        refused(x, "settle(4)", OUT, () -> x.settle(4));
+        refused(x, "settle(-1)", OUT, m -> m.settle(-1));
+        refused(x, "settle(4)", OUT, m -> m.settle(4));
     }
 
     private static void settleTies() {
-        Cellmarket x = new Cellmarket();
+        Traced x = new Traced();
         number(x, 1, 0, 1);
         x.bid(5, 1, true, 4, 1);
         x.bid(3, 1, true, 4, 1);
@@ -1252,14 +1104,8 @@ public final class PromisesTest {
         expectCash(x, 0, 0, -1, 1, 0, 0);
     }
 
-    private static void expectCash(Cellmarket x, int... want) {
-        for (int o = 0; o < 6; o++) {
-            due("cash(" + o + ")", x.cash(o), want[o]);
-        }
-    }
-
     private static void cash() {
-        Cellmarket x = new Cellmarket();
+        Traced x = new Traced();
         number(x, 0, 0, 100);
         number(x, 1, 0, 100);
         x.bid(0, 0, true, 1, 100);
@@ -1275,20 +1121,20 @@ public final class PromisesTest {
         x.settle(1);
         due("cash", x.cash(0), 20);
         due("cash", x.cash(5), -20);
-        refused(x, "cash(-1)", OUT, () -> x.cash(-1));
-        refused(x, "cash(6)", OUT, () -> x.cash(6));
+        refused(x, "cash(-1)", OUT, m -> m.cash(-1));
+        refused(x, "cash(6)", OUT, m -> m.cash(6));
     }
 
     private static void limit() {
-        Cellmarket x = new Cellmarket();
+        Traced x = new Traced();
         due("limit", x.limit(0, 0), 100000);
         due("limit", x.limit(0, 1000000000), 0);
         due("limit", x.limit(0, 7), 1000000000);
         due("another's limit", x.limit(5, 7), 100000);
-        refused(x, "limit of -1", BAD, () -> x.limit(0, -1));
-        refused(x, "limit of 1000000001", BAD, () -> x.limit(0, 1000000001));
-        refused(x, "limit, owner -1", OUT, () -> x.limit(-1, -1));
-        refused(x, "limit, owner 6", OUT, () -> x.limit(6, 0));
+        refused(x, "limit of -1", BAD, m -> m.limit(0, -1));
+        refused(x, "limit of 1000000001", BAD, m -> m.limit(0, 1000000001));
+        refused(x, "limit, owner -1", OUT, m -> m.limit(-1, -1));
+        refused(x, "limit, owner 6", OUT, m -> m.limit(6, 0));
         due("limit", x.limit(0, 8), 7);
         due("events", x.events(), 5);
         x.limit(1, 1000000000);
@@ -1297,13 +1143,13 @@ public final class PromisesTest {
         }
         due("exposure", x.exposure(1), 79 * 999900);
         x.limit(1, 80 * 999900 - 1);
-        refused(x, "one too much", NOT, () -> x.bid(1, 0, true, 100, 9999));
+        refused(x, "one too much", NOT, m -> m.bid(1, 0, true, 100, 9999));
         x.limit(1, 80 * 999900);
         due("just enough", x.bid(1, 0, true, 100, 9999), 79);
     }
 
     private static void exposure() {
-        Cellmarket x = new Cellmarket();
+        Traced x = new Traced();
         number(x, 0, 0, 50);
         number(x, 1, 0, 50);
         x.bid(0, 0, true, 3, 70);
@@ -1328,15 +1174,15 @@ public final class PromisesTest {
         due("dues", x.exposure(1), 450);
         x.settle(0);
         due("not those settled", x.exposure(0), 0);
-        refused(x, "exposure(-1)", OUT, () -> x.exposure(-1));
-        refused(x, "exposure(6)", OUT, () -> x.exposure(6));
+        refused(x, "exposure(-1)", OUT, m -> m.exposure(-1));
+        refused(x, "exposure(6)", OUT, m -> m.exposure(6));
     }
 
     // ---- disputes
 
     private static void strikeBid() {
-        Cellmarket x = new Cellmarket();
-        refused(x, "strikeBid, none made", OUT, () -> x.strikeBid(0));
+        Traced x = new Traced();
+        refused(x, "strikeBid, none made", OUT, m -> m.strikeBid(0));
         number(x, 0, 0, 10);
         x.bid(0, 0, true, 4, 20);
         x.bid(1, 0, true, 4, 10);
@@ -1344,28 +1190,28 @@ public final class PromisesTest {
         x.bid(3, 0, true, 4, 10);
         x.bid(4, 0, true, 4, 9);
         x.withdraw(3, 3);
-        refused(x, "strikeBid, open", NOT, () -> x.strikeBid(0));
+        refused(x, "strikeBid, open", NOT, m -> m.strikeBid(0));
         x.bell(0);
-        refused(x, "strikeBid, frozen", NOT, () -> x.strikeBid(0));
+        refused(x, "strikeBid, frozen", NOT, m -> m.strikeBid(0));
         x.bell(0);
         expectGot(x, 0, 4, 1, 5, 0, 0);
         due("strike one that has got nothing", x.strikeBid(4), 0);
         due("strike one that was withdrawn", x.strikeBid(3), 0);
-        refused(x, "strikeBid again", NOT, () -> x.strikeBid(3));
+        refused(x, "strikeBid again", NOT, m -> m.strikeBid(3));
         due("strikeBid", x.strikeBid(0), 1);
         expectGot(x, 0, 0, 4, 4, 0, 0);
         due("volume", x.round(0, 2), 4);
         due("due", x.due(0, 0), 0);
         due("due", x.due(1, 0), 40);
-        refused(x, "strikeBid again", NOT, () -> x.strikeBid(0));
-        refused(x, "strikeBid(-1)", OUT, () -> x.strikeBid(-1));
-        refused(x, "strikeBid(5)", OUT, () -> x.strikeBid(5));
+        refused(x, "strikeBid again", NOT, m -> m.strikeBid(0));
+        refused(x, "strikeBid(-1)", OUT, m -> m.strikeBid(-1));
+        refused(x, "strikeBid(5)", OUT, m -> m.strikeBid(5));
         due("the volume alike, others get it", fourOfTwo(), 1);
     }
 
     /** Strikes a bid, so that the volume stays and other bids get it. */
     private static int fourOfTwo() {
-        Cellmarket x = new Cellmarket();
+        Traced x = new Traced();
         number(x, 0, 0, 10);
         x.bid(0, 0, true, 4, 20);
         x.bid(1, 0, true, 4, 10);
@@ -1378,7 +1224,7 @@ public final class PromisesTest {
     }
 
     private static void strikeBidOfOthersThen() {
-        Cellmarket x = new Cellmarket();
+        Traced x = new Traced();
         formula(x, 0, 0, Cellmarket.BUY, 1, 0);
         formula(x, 2, 0, Cellmarket.LAST, 0, 0, N, 1, 0, 8, 0, 0);
         x.bid(1, 1, true, 1, 30);
@@ -1390,7 +1236,7 @@ public final class PromisesTest {
         x.bell(2);
         due("price", x.round(0, 1), 30);
         due("price", x.round(1, 1), 31);
-        refused(x, "its round was not cleared", NOT, () -> x.strikeBid(0));
+        refused(x, "its round was not cleared", NOT, m -> m.strikeBid(0));
         x.bell(1);
         due("a bid made later changes nothing", x.strikeBid(1), 0);
         due("a bid in another column", x.strikeBid(0), 2);
@@ -1401,7 +1247,7 @@ public final class PromisesTest {
     }
 
     private static void strikeAheadOfClearing() {
-        Cellmarket x = new Cellmarket();
+        Traced x = new Traced();
         formula(x, 0, 0, Cellmarket.BUYS, 1, 0, N, 10, 0, 8, 0, 0);
         number(x, 0, 1, 50);
         x.bid(1, 1, true, 7, 1);
@@ -1415,8 +1261,8 @@ public final class PromisesTest {
     }
 
     private static void strikeEdit() {
-        Cellmarket x = new Cellmarket();
-        refused(x, "strikeEdit, none told", OUT, () -> x.strikeEdit(0));
+        Traced x = new Traced();
+        refused(x, "strikeEdit, none told", OUT, m -> m.strikeEdit(0));
         number(x, 0, 0, 10);
         number(x, 0, 1, 100);
         number(x, 0, 0, 12);
@@ -1445,16 +1291,16 @@ public final class PromisesTest {
         due("reason", x.round(1, 4), Cellmarket.EMPTY);
         x.settle(0);
         due("settled anew", x.cash(2), 0);
-        refused(x, "strikeEdit again", NOT, () -> x.strikeEdit(0));
-        refused(x, "strikeEdit(-1)", OUT, () -> x.strikeEdit(-1));
-        refused(x, "strikeEdit(4)", OUT, () -> x.strikeEdit(4));
+        refused(x, "strikeEdit again", NOT, m -> m.strikeEdit(0));
+        refused(x, "strikeEdit(-1)", OUT, m -> m.strikeEdit(-1));
+        refused(x, "strikeEdit(4)", OUT, m -> m.strikeEdit(4));
         x.bell(0);
         number(x, 1, 0, 5);
         due("strike while another is frozen", x.strikeEdit(4), 0);
     }
 
     private static void strikeAnEmptying() {
-        Cellmarket x = new Cellmarket();
+        Traced x = new Traced();
         number(x, 0, 0, 10);
         x.empty(0, 0, 0);
         round(x, 0);
@@ -1478,7 +1324,7 @@ public final class PromisesTest {
     }
 
     private static void events() {
-        Cellmarket x = new Cellmarket();
+        Traced x = new Traced();
         due("events", x.events(), 0);
         x.give(0, 0, 5, 0);
         x.let(0, 1, 0, 0, 0, true);
@@ -1511,104 +1357,104 @@ public final class PromisesTest {
         x.cash(0);
         x.exposure(0);
         due("what is asked is no act", x.events(), 14);
-        refused(x, "give", NOT, () -> x.give(5, 0, 0, 0));
+        refused(x, "give", NOT, m -> m.give(5, 0, 0, 0));
         due("what is refused is no act", x.events(), 14);
     }
 
     private static void promisesOfCells() {
-        promise = 1;
+        where = "promise 1";
         newObject();
-        promise = 2;
+        where = "promise 2";
         give();
         giveTakesFees();
-        promise = 3;
+        where = "promise 3";
         let();
         letRefused();
-        promise = 4;
+        where = "promise 4";
         ownerOf();
-        promise = 5;
+        where = "promise 5";
         reads();
     }
 
     private static void promisesOfFormulas() {
-        promise = 6;
+        where = "promise 6";
         word();
-        promise = 7;
+        where = "promise 7";
         wipe();
-        promise = 8;
+        where = "promise 8";
         enter();
         sixtyEdits();
-        promise = 9;
+        where = "promise 9";
         empty();
-        promise = 10;
+        where = "promise 10";
         notice();
         laterToldCounts();
-        promise = 11;
+        where = "promise 11";
         reckoning();
         value();
         valueOfTheMarket();
         valueOfLast();
-        promise = 12;
+        where = "promise 12";
         fault();
         faultOfRange();
         faultIsAskedBy();
         longChain();
         pileOfEachCell();
-        promise = 13;
+        where = "promise 13";
         edits();
-        promise = 14;
+        where = "promise 14";
         edit();
     }
 
     private static void promisesOfRounds() {
-        promise = 15;
+        where = "promise 15";
         bid();
         bidAndLimit();
         bidAndDues();
         eightyBids();
-        promise = 16;
+        where = "promise 16";
         withdraw();
-        promise = 17;
+        where = "promise 17";
         share();
         sharingByOrder();
         sharingByShares();
         shareCountsAtTheFreezing();
-        promise = 18;
+        where = "promise 18";
         bell();
         bellTakesWhatHeldThen();
         bellAndNotice();
-        promise = 19;
+        where = "promise 19";
         isFrozen();
-        promise = 20;
+        where = "promise 20";
         round();
         roundVoidByFaults();
         roundFee();
-        promise = 21;
+        where = "promise 21";
         priceAnew();
-        promise = 22;
+        where = "promise 22";
         got();
     }
 
     private static void promisesOfSettling() {
-        promise = 23;
+        where = "promise 23";
         due();
-        promise = 24;
+        where = "promise 24";
         settle();
         settleTies();
-        promise = 25;
+        where = "promise 25";
         cash();
-        promise = 26;
+        where = "promise 26";
         limit();
-        promise = 27;
+        where = "promise 27";
         exposure();
-        promise = 28;
+        where = "promise 28";
         strikeBid();
         strikeBidOfOthersThen();
         strikeAheadOfClearing();
-        promise = 29;
+        where = "promise 29";
         strikeEdit();
         strikeAnEmptying();
-        promise = 30;
+        where = "promise 30";
         events();
     }
 
